@@ -630,7 +630,7 @@ public final class StoryRound {
                 if (i > 0 && tokens.kind == Tokens.END) {
                     break;
                 }
-                if (readHead() && readBlock()) {
+                if (readHead() && readBlock() && current != null) {
                     code.add(Code.CONST, 0);
                     code.add(Code.RETURN, 0);
                     current.end = code.size();
@@ -1529,6 +1529,8 @@ public final class StoryRound {
 
         private int[] rows = new int[8 * WIDTH];
         private int used;
+        private int latest;
+        private boolean isListed;
         private int listed;
         private final int[] which = new int[MOST_LISTED];
         private final int[] depths = new int[MOST_LISTED];
@@ -1536,7 +1538,13 @@ public final class StoryRound {
 
         void clear() {
             used = 1;
-            listed = 0;
+            comeOut(0);
+        }
+
+        /** The failure that came out last; it is listed when it is asked for. */
+        void comeOut(int one) {
+            latest = one;
+            isListed = false;
         }
 
         int make(int number, int value, int voice, int place, int cause) {
@@ -1580,9 +1588,13 @@ public final class StoryRound {
             return number != CLOSE && (caught == ANY || caught == number);
         }
 
-        void list(int one) {
-            listed = 0;
-            visit(one, 0, FIRST_WAY);
+        int listed() {
+            if (!isListed) {
+                isListed = true;
+                listed = 0;
+                visit(latest, 0, FIRST_WAY);
+            }
+            return listed;
         }
 
         private void visit(int one, int depth, int way) {
@@ -1599,10 +1611,6 @@ public final class StoryRound {
                 visit(beneath, depth + 1, AS_BENEATH);
                 beneath = get(beneath, BEHIND);
             }
-        }
-
-        int listed() {
-            return listed;
         }
 
         int fact(int i, int what) {
@@ -1705,6 +1713,7 @@ public final class StoryRound {
         private int raised;
         private int outcome;
         private int given;
+        private boolean isSpent;
 
         Stage(Story story) {
             this.story = story;
@@ -1713,11 +1722,7 @@ public final class StoryRound {
         }
 
         void reset() {
-            for (int i = 1; i <= made && i <= MOST_VOICES; i++) {
-                if (voices[i] != null && !voices[i].isOver()) {
-                    end(voices[i], Voice.FAILED);
-                }
-            }
+            failAll();
             lines.clear();
             handings.clear();
             failures.clear();
@@ -1729,6 +1734,7 @@ public final class StoryRound {
             raised = 0;
             outcome = CAME_BACK;
             given = 0;
+            isSpent = false;
         }
 
         int made() {
@@ -1752,7 +1758,7 @@ public final class StoryRound {
         }
 
         boolean isSpent() {
-            return outcome == SPENT;
+            return isSpent;
         }
 
         boolean isFull() {
@@ -1790,6 +1796,15 @@ public final class StoryRound {
             }
         }
 
+        private void failAll() {
+            for (int i = 1; i <= made; i++) {
+                Voice one = find(i);
+                if (one != null && !one.isOver()) {
+                    end(one, Voice.FAILED);
+                }
+            }
+        }
+
         void deskResumes(Voice one, int value) {
             one.resumer = DESK;
             give(DESK, one, value);
@@ -1811,16 +1826,20 @@ public final class StoryRound {
 
         /** Marks the voices that somebody reaches: the number of the last voice. */
         int findReached() {
-            for (int i = 1; i <= made && i <= MOST_VOICES; i++) {
-                voices[i].reached = voices[i].maker == DESK ? Voice.REACHED : Voice.UNREACHED;
+            for (int i = 1; i <= made; i++) {
+                Voice one = find(i);
+                if (one != null) {
+                    one.reached = one.maker == DESK ? Voice.REACHED : Voice.UNREACHED;
+                }
             }
             boolean more = true;
             for (int round = 0; round <= MOST_VOICES && more; round++) {
                 more = false;
-                for (int i = 1; i <= made && i <= MOST_VOICES; i++) {
-                    if (voices[i].reached == Voice.REACHED && !voices[i].isOver()) {
-                        voices[i].reached = Voice.LOOKED_INTO;
-                        lookInto(voices[i]);
+                for (int i = 1; i <= made; i++) {
+                    Voice one = find(i);
+                    if (one != null && one.reached == Voice.REACHED && !one.isOver()) {
+                        one.reached = Voice.LOOKED_INTO;
+                        lookInto(one);
                         more = true;
                     }
                 }
@@ -1853,6 +1872,8 @@ public final class StoryRound {
                 Voice v = find(turn);
                 if (v == null) {
                     turn = DESK;
+                } else if (isSpent) {
+                    spend(v);
                 } else if (raised != 0) {
                     unwind(v);
                 } else {
@@ -1885,8 +1906,7 @@ public final class StoryRound {
                     lines.add(v.number, v.pop());
                     break;
                 case Code.STATE_OF:
-                    Voice asked = find(v.pop());
-                    v.push(asked == null ? NO_VOICE : asked.state);
+                    v.push(stateOf(find(v.pop())));
                     break;
                 case Code.NEW:
                     makeBy(v, operand);
@@ -1916,10 +1936,14 @@ public final class StoryRound {
             }
         }
 
+        private static int stateOf(Voice one) {
+            return one == null ? NO_VOICE : one.state;
+        }
+
         /** A step is taken; false: there is none left. */
         private boolean step(Voice v) {
             if (steps >= MOST_STEPS) {
-                spend(v);
+                isSpent = true;
                 return false;
             }
             steps++;
@@ -1928,11 +1952,7 @@ public final class StoryRound {
         }
 
         private void spend(Voice v) {
-            for (int i = 1; i <= made && i <= MOST_VOICES; i++) {
-                if (!voices[i].isOver()) {
-                    end(voices[i], Voice.FAILED);
-                }
-            }
+            failAll();
             handings.add(v.number, DESK);
             turn = DESK;
             outcome = SPENT;
@@ -2205,7 +2225,7 @@ public final class StoryRound {
         private void comeOut() {
             turn = DESK;
             outcome = FAILED;
-            failures.list(raised);
+            failures.comeOut(raised);
             raised = 0;
         }
     }
