@@ -1258,7 +1258,7 @@ public final class StoryRound {
 
         /** It is over: the cells are given back for another one. */
         int[] end(int as) {
-            int[] row = cells == NO_CELLS ? null : cells;
+            int[] row = cells.length == 0 ? null : cells;
             state = as;
             calls = 0;
             cells = NO_CELLS;
