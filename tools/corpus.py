@@ -35,6 +35,14 @@ def played(seed):
     r = random.Random(seed)
     w = World()
     out = ['new ' + str(seed)]
+    lively = 0
+    for _ in range(3):
+        play_story(out, w, r)
+        lively += is_lively(w)
+    return out if lively >= 2 else []
+
+
+def play_story(out, w, r):
     g = Stories(r)
     text = g.prog()
     while not 80 < len(text) < 700:
@@ -53,7 +61,6 @@ def played(seed):
         emit(out, w, 'ring', i)
     for v in range(1, len(w.voices) + 1):
         emit(out, w, 'local', v, r.randint(0, 1), r.randint(0, 2))
-    return out if is_lively(w) else []
 
 
 def is_lively(w):

@@ -23,6 +23,7 @@ public final class VoiceTest {
         close();
         sweep();
         sweepReaches();
+        sweepReachesBackwards();
         sweepOrder();
         sweepSpent();
         answer();
@@ -211,6 +212,11 @@ public final class VoiceTest {
         Due.lines(x, "2:5 1:5 1:1 2:81 1:6 1:4 1:10 1:2 1:99");
         Due.handings(x, "0>1 1>2 2>1 1>2 2>1 1>0");
         Due.is("its resumer", x.told(2, 5), 1);
+        x = Due.story("voice m(){a=new k();resume a with 0;tell state me;try{inject 1 into a with 0;}catch e{tell state me;}tell state a;"
+                + "a=new k();resume a with 0;close a;tell state me;}voice k(){tell state 1;try{yield 0;}catch e{throw 2 state me;}finally{tell state me;tell state 1;}}");
+        x.voice(0, 0);
+        Due.is("resume", x.resume(1, 0), 1);
+        Due.lines(x, "2:3 1:2 2:2 2:3 1:2 1:5 3:3 3:2 3:3 1:2");
         misused("resume 0 with 0;");
         misused("resume 99 with 0;");
         misused("resume -1 with 0;");
@@ -423,11 +429,13 @@ public final class VoiceTest {
         Due.lines(x, "2:45");
         Due.is("not caught", x.inject(2, 3, 46), 2);
         Due.failures(x, "0 0 3 46 0 -9");
-        x = Due.story("voice m(){try{yield 1;}catch e{return e+1;}}");
-        x.voice(0, 0);
-        x.resume(1, 0);
-        Due.is("ended", x.inject(1, 0, 9), 1);
-        Due.is("answer", x.answer(), 10);
+        for (int kind = 0; kind <= 9; kind++) {
+            x = Due.story("voice m(){try{yield 1;}catch " + kind + " e{return e+1;}}");
+            x.voice(0, 0);
+            x.resume(1, 0);
+            Due.is("ended", x.inject(1, kind, 9), 1);
+            Due.is("answer", x.answer(), 10);
+        }
         x = Due.story("voice m(){try{yield 1;}catch e{while(1){}}}");
         x.voice(0, 0);
         x.resume(1, 0);
@@ -492,6 +500,16 @@ public final class VoiceTest {
         x.voice(0, 0);
         x.resume(1, 0);
         Due.is("reached by a number", x.sweep(), 0);
+    }
+
+    private static void sweepReachesBackwards() {
+        // 1 holds 6, 6 has 5 as its argument, and so on down to 2, which has 7.
+        StoryRound x = Due.story("voice m(a){a=new k(7);while(a<6){a=new k(a);}new k(0);new k(0);yield 0;}voice k(n){}");
+        x.voice(0, 0);
+        x.resume(1, 0);
+        Due.is("voices", x.count(1), 8);
+        Due.is("7 is reached, 8 is not", x.sweep(), 1);
+        Due.states(x, "10000006");
     }
 
     private static void sweepOrder() {
