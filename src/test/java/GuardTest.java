@@ -77,8 +77,12 @@ public final class GuardTest {
         played("voice m(){try{throw 1 1;}catch e{throw 2 2;}finally{tell 2;}tell 3;}", 2, "1:2");
         x = played("voice m(){try{return f(5);}finally{tell 2;}tell 3;}do f(x){tell x;return x;}", 1, "1:5 1:2");
         Due.is("answer", x.answer(), 5);
+        Due.is("finished", x.told(1, 3), 1);
         x = played("voice m(){try{throw 1 6;}catch e{return e;}finally{e=9;tell 2;}}", 1, "1:2");
         Due.is("the value was worked out ahead", x.answer(), 6);
+        Due.is("finished", x.told(1, 3), 1);
+        x = played("voice m(){try{try{return 1;}finally{}}finally{return 2;}}", 1, "");
+        Due.is("finished", x.told(1, 3), 2);
         x = played("voice m(){i=0;while(i<3){i=i+1;try{}finally{}}}", 1, "");
         Due.is("each that began", x.told(1, 3), 3);
         x = played("voice m(){try{try{throw 1 2;}finally{tell 1;}}finally{tell 2;}}", 2, "1:1 1:2");
