@@ -1243,17 +1243,14 @@ public final class StoryRound {
             return reached == UNREACHED && !isOver();
         }
 
-        /** The first call, on cells that another voice may have used (null: on new ones). */
-        void begin(int[] row, Body of) {
+        /** Its argument alone, on cells that another voice may have used (null: on new ones). */
+        void begin(int[] row) {
             cells = row == null ? new int[FIRST_CELLS] : row;
-            top = 0;
+            put(0, argument);
+            top = 1;
             base = 0;
             guard = NONE;
             pc = NONE;
-            if (of.arguments > 0) {
-                push(argument);
-            }
-            enter(of);
         }
 
         /** It is over: the cells are given back for another one. */
@@ -1266,8 +1263,10 @@ public final class StoryRound {
         }
 
         void push(int value) {
-            makeRoom(top + 1);
-            if (top >= 0 && top < cells.length) {
+            if (top >= cells.length) {
+                cells = Arrays.copyOf(cells, 2 * top + 1);
+            }
+            if (top >= 0) {
                 cells[top] = value;
                 top++;
             }
@@ -1295,12 +1294,6 @@ public final class StoryRound {
             }
         }
 
-        private void makeRoom(int size) {
-            if (size > cells.length) {
-                cells = Arrays.copyOf(cells, 2 * size);
-            }
-        }
-
         boolean canCall() {
             return calls < MOST_CALLS;
         }
@@ -1309,7 +1302,9 @@ public final class StoryRound {
         void enter(Body of) {
             int from = Math.max(0, top - of.arguments);
             int end = from + FRAME + of.variables;
-            makeRoom(end);
+            if (end > cells.length) {
+                cells = Arrays.copyOf(cells, 2 * end);
+            }
             for (int i = of.variables - 1; i >= 0; i--) {
                 put(from + FRAME + i, i < of.arguments ? cell(from + i) : 0);
             }
@@ -1379,7 +1374,8 @@ public final class StoryRound {
 
         /** Whether the innermost guard is in its block or a catch, not in its finally. */
         boolean isInGuarded() {
-            return phase() == IN_BLOCK || phase() == IN_CATCH;
+            int phase = cell(guard + PHASE);
+            return phase == IN_BLOCK || phase == IN_CATCH;
         }
 
         int handlers() {
@@ -1548,20 +1544,20 @@ public final class StoryRound {
         }
 
         int make(int number, int value, int voice, int place, int cause) {
-            int one = used;
-            if ((one + 1) * WIDTH > rows.length) {
+            int at = used * WIDTH;
+            if (at + WIDTH > rows.length) {
                 rows = Arrays.copyOf(rows, 2 * rows.length);
             }
+            rows[at + NUMBER] = number;
+            rows[at + VALUE] = value;
+            rows[at + VOICE] = voice;
+            rows[at + PLACE] = place;
+            rows[at + CAUSE] = cause;
+            rows[at + FIRST] = 0;
+            rows[at + LAST] = 0;
+            rows[at + BEHIND] = 0;
             used++;
-            put(one, NUMBER, number);
-            put(one, VALUE, value);
-            put(one, VOICE, voice);
-            put(one, PLACE, place);
-            put(one, CAUSE, cause);
-            put(one, FIRST, 0);
-            put(one, LAST, 0);
-            put(one, BEHIND, 0);
-            return one;
+            return used - 1;
         }
 
         /** A failure that went on comes beneath the one that took its place, behind those there. */
@@ -2059,7 +2055,8 @@ public final class StoryRound {
             if (one.state == Voice.AT_YIELD) {
                 one.push(value);
             } else if (of != null) {
-                one.begin(spareRow(), of);
+                one.begin(spareRow());
+                one.enter(of);
             }
             one.state = Voice.UNDER_WAY;
         }
