@@ -1331,7 +1331,8 @@ public final class StoryRound {
         }
 
         int place() {
-            return cell(base + PLACE);
+            int at = base + PLACE;
+            return at < 0 || at >= cells.length ? NONE : cells[at];
         }
 
         void setPlace(int place) {
@@ -1577,11 +1578,6 @@ public final class StoryRound {
 
         int value(int one) {
             return get(one, VALUE);
-        }
-
-        boolean isTakenBy(int one, int caught) {
-            int number = get(one, NUMBER);
-            return number != CLOSE && (caught == ANY || caught == number);
         }
 
         int listed() {
@@ -2143,7 +2139,7 @@ public final class StoryRound {
 
         private void giveBack(Voice v, int value) {
             for (int i = 0; i < Voice.MOST_GUARDS && v.isGuarded(); i++) {
-                int at = v.isInGuarded() ? handlerOf(v, 0) : NONE;
+                int at = v.isInGuarded() ? handlerOf(v.handlers(), Failures.CLOSE) : NONE;
                 if (code.act(at) == Code.FINALLY) {
                     v.finished++;
                     v.turnGuard(Voice.RETURNING, value, at + 1);
@@ -2159,11 +2155,12 @@ public final class StoryRound {
             }
         }
 
-        /** The act of the first catch that takes a failure (0: nothing is taken), or behind them all. */
-        private int handlerOf(Voice v, int failure) {
-            int at = v.handlers();
+        /** From a first handler on: the catch that takes a number (none takes CLOSE), or the act behind them all. */
+        private int handlerOf(int handlers, int number) {
+            int at = handlers;
             for (int i = 0; i < MOST_HANDLERS && code.act(at) == Code.CATCH; i++) {
-                if (failure != 0 && failures.isTakenBy(failure, code.argument(at))) {
+                int caught = code.argument(at);
+                if (number != Failures.CLOSE && (caught == number || caught == Failures.ANY)) {
                     return at;
                 }
                 at = code.argument(at + 1);
@@ -2187,7 +2184,7 @@ public final class StoryRound {
                 return;
             }
             int failure = raised;
-            int at = handlerOf(v, v.phase() == Voice.IN_BLOCK ? failure : 0);
+            int at = handlerOf(v.handlers(), v.phase() == Voice.IN_BLOCK ? failures.number(failure) : Failures.CLOSE);
             if (code.act(at) == Code.CATCH) {
                 raised = 0;
                 v.turnGuard(Voice.IN_CATCH, failure, at + 2);
