@@ -1,5 +1,5 @@
 """Random stories, and texts that are none or nearly none."""
-import random, re
+import re
 
 
 
