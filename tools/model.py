@@ -899,7 +899,7 @@ class World:
         if not v:
             return BAD
         if v.state == 0:
-            return v.arg if c == 0 and i == 0 else BAD
+            return v.arg if c == 0 and i == 0 and s.bodies[v.script]['args'] else BAD
         if v.state >= 4 or not 0 <= c < len(v.frames):
             return BAD
         fr = v.frames[-1 - c]

@@ -158,7 +158,7 @@ public final class StoryRound {
             return BAD;
         }
         if (one.state == Voice.NOT_BEGUN) {
-            return call == 0 && i == 0 ? one.argument : BAD;
+            return call == 0 && i == 0 && hasArgument(one) ? one.argument : BAD;
         }
         int frame = one.frameOf(call);
         return i < 0 || i >= one.variablesOf(frame) ? BAD : one.variable(frame, i);
@@ -234,6 +234,12 @@ public final class StoryRound {
 
     private boolean plays() {
         return isRead && !stage.isSpent();
+    }
+
+    /** Without one the voice keeps a 0 in its place, which nobody may ask for. */
+    private boolean hasArgument(Voice one) {
+        Body of = story.at(one.script);
+        return of != null && of.arguments > 0;
     }
 
     private static int kept(Pairs pairs, int i, int what) {

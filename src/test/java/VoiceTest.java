@@ -29,6 +29,7 @@ public final class VoiceTest {
         answer();
         told();
         local();
+        localWithoutArgument();
         Due.end();
     }
 
@@ -41,7 +42,7 @@ public final class VoiceTest {
         Due.is("the first", x.voice(1, 70), 1);
         Due.is("the second", x.voice(2, 80), 2);
         Due.is("its argument", x.local(1, 0, 0), 70);
-        Due.is("not looked at", x.local(2, 0, 0), 0);
+        Due.is("without an argument", x.local(2, 0, 0), BAD);
         Due.is("resume 1", x.resume(1, 0), 0);
         Due.is("answer 1", x.answer(), 70);
         Due.is("resume 2", x.resume(2, 0), 0);
@@ -591,5 +592,24 @@ public final class VoiceTest {
         Due.is("no voice", x.local(2, 0, 0), BAD);
         x.close(1);
         Due.is("over", x.local(1, 0, 0), BAD);
+    }
+
+    private static void localWithoutArgument() {
+        StoryRound x = Due.story("voice a(){b=new c();new d(7);yield 5;}voice c(){e=6;yield 1;}voice d(f){}");
+        x.voice(0, 9);
+        Due.is("made by the desk, not begun", x.local(1, 0, 0), BAD);
+        Due.is("its i 1", x.local(1, 0, 1), BAD);
+        Due.is("its call 1", x.local(1, 1, 0), BAD);
+        x.resume(1, 0);
+        Due.is("begun: its variable", x.local(1, 0, 0), 2);
+        Due.is("made by a voice, not begun", x.local(2, 0, 0), BAD);
+        Due.is("made by a voice, with an argument", x.local(3, 0, 0), 7);
+        x.voice(2, 0);
+        Due.is("an argument 0 is one", x.local(4, 0, 0), 0);
+        x.resume(2, 0);
+        Due.is("begun without an argument", x.local(2, 0, 0), 6);
+        x.voice(1, 0);
+        x.close(5);
+        Due.is("closed before it began", x.local(5, 0, 0), BAD);
     }
 }
