@@ -32,6 +32,9 @@ public final class TextEdgeTest {
         variablesInTheirOrder();
         leastWrongName();
         textAheadOfNames();
+        firstFaultCounts();
+        tooLongWhereOneCanStand();
+        olderBytesAreGone();
         bodyEdges();
         Due.end();
     }
@@ -454,6 +457,65 @@ public final class TextEdgeTest {
         Due.faultAtMark("voice a(){y();new y();tell z;^");
         Due.faultAtMark("do a(b,b){tell abcdefgh^i;}");
         Due.fault("voice a(){tell z;}" + manyBodies(12, "do"), 18 + 11 * 8);
+    }
+
+    /** Behind the fault stands what may begin a statement, and then another fault. */
+    private static void firstFaultCounts() {
+        String[] starts = {"return 1+", "return -", "return 1<", "return ", "throw ", "throw 1 ", "throw 1 1+", "tell ", "tell 1 ", "close ", "close 1 ",
+            "x=", "x=1 ", "1 ", "if ", "if(", "if(1", "if(1)", "if(1){tell 1 ", "if(1){}else ", "if(1){}else{tell 1 ", "while ", "while(", "while(1",
+            "while(1)", "while(1){tell 1 ", "each ", "each x ", "each x of ", "each x of 1 ", "each x of 1{tell 1 ", "try ", "try{tell 1 ", "try{}",
+            "try{}catch ", "try{}catch 1 ", "try{}catch e ", "try{}catch e{tell 1 ", "try{}finally ", "try{}finally{tell 1 ", "a(", "a(1", "a(1 ", "a(1,",
+            "new ", "new a ", "new a(", "new a(1 ", "resume ", "resume 1 ", "resume 1 with ", "inject ", "inject 1 ", "inject 1 into ", "inject 1 into 1 ",
+            "inject 1 into 1 with ", "hand ", "hand 1 ", "hand 1 with ", "yield ", "state ", "-", "!", "(", "(1 ", "1==", "1*", "1/", "1%", "1-"};
+        for (String start : starts) {
+            Due.faultAtMark("voice a(){" + start + "^tell 2;;}");
+            Due.faultAtMark("voice a(){" + start + "^tell 2;}}}}");
+            Due.faultAtMark("voice a(){" + start + "^while(1){}abcdefghi=1;}");
+            Due.faultAtMark("voice a(){while(1){if(1){try{" + start + "^tell 2;;}");
+        }
+        Due.faultAtMark("voice ^tell b(){;}");
+        Due.faultAtMark("voice a ^tell(){;}");
+        Due.faultAtMark("voice a(^tell){;}");
+        Due.faultAtMark("voice a(b ^tell){;}");
+        Due.faultAtMark("do a(b,^tell){;}");
+        Due.faultAtMark("voice a()^tell{;}");
+    }
+
+    /** The 9th letter, the 10th figure: not the first byte, which could stand there. */
+    private static void tooLongWhereOneCanStand() {
+        String[] starts = {"tell ", "close ", "return ", "throw 1 ", "x=", "if(", "while(", "each x of ", "", "1<", "1==", "1+", "1-", "1*", "1/", "1%",
+            "-", "!", "(", "(1+", "state ", "yield ", "resume ", "resume 1 with ", "hand ", "hand 1 with ", "inject 1 into ", "inject 1 into 1 with ",
+            "a(", "a(1,", "a(1,2,3,", "new a(", "tell 1<", "return 1==", "throw 1 1<", "if(1<", "f(1<", "if(1){", "try{", "while(1){tell "};
+        for (String start : starts) {
+            Due.faultAtMark("voice a(){" + start + "abcdefgh^i;");
+            Due.faultAtMark("voice a(){" + start + "abcdefgh^ijk(1);");
+            Due.faultAtMark("voice a(){" + start + "123456789^0;");
+            Due.faultAtMark("voice a(){" + start + "123456789^0123 tell 1;");
+        }
+        String[] names = {"each ", "try{}catch ", "try{}catch 1 ", "new ", "tell new "};
+        for (String start : names) {
+            Due.faultAtMark("voice a(){" + start + "abcdefgh^i;");
+            Due.faultAtMark("voice a(){" + start + "abcdefgh^ijk(1);");
+        }
+        String[] numbers = {"throw ", "try{}catch ", "inject "};
+        for (String start : numbers) {
+            Due.faultAtMark("voice a(){" + start + "123456789^0;");
+            Due.faultAtMark("voice a(){" + start + "123456789^0123 tell 1;");
+        }
+    }
+
+    private static void olderBytesAreGone() {
+        StoryRound x = new StoryRound();
+        Due.feed(x, "voice a(){1==1;}");
+        x.drop();
+        Due.feed(x, "voice a(){1=");
+        Due.is("the second = was dropped", x.compile(), -10 - 11);
+        Due.feed(x, "voice abcdefgh(){tell 123456789;}");
+        x.compile();
+        Due.feed(x, "voice abc");
+        Due.is("letters of an older text", x.compile(), -10 - 9);
+        Due.feed(x, "voice abcdefgh(){tell 123");
+        Due.is("figures of an older text", x.compile(), -10 - 25);
     }
 
     private static void bodyEdges() {
