@@ -1,5 +1,6 @@
-"""Writes runs of calls with the answers of the model, as src/test/data/model-runs.txt has them."""
+"""Writes runs of calls with the answers of the model, as the files of src/test/data have them."""
 import random, sys
+from lively import Lively
 from model import World
 from stories import Stories, faulty
 
@@ -80,6 +81,49 @@ def refused(seed):
     return out
 
 
+def met(seed):
+    """Three stories of voices that meet, told of behind each call; nothing if they hardly do."""
+    r = random.Random('met %d' % seed)
+    w = World()
+    out = ['new met %d' % seed]
+    lively = 0
+    for _ in range(3):
+        g = Lively(r)
+        text = g.prog()
+        while len(text) > 1200:
+            text = g.prog()
+        emit_text(out, w, text)
+        scripts = [i for i, (k, _) in enumerate(g.order) if k == 's']
+        for _ in range(r.randint(8, 24)):
+            desk_call(out, w, r, scripts)
+            for name in ['digest', 'answer', 'failures']:
+                emit(out, w, name)
+            emit(out, w, 'ring', 1)
+        emit_what_is_left(out, w, r)
+        lively += is_met(w)
+    return out if lively >= 2 else []
+
+
+def is_met(w):
+    voices_to_voices = [p for p in w.hand_ if 0 not in p]
+    return len(voices_to_voices) >= 6 and (w.failures() > 1 or len(w.ring_) > 1)
+
+
+def emit_what_is_left(out, w, r):
+    for i in range(w.failures()):
+        for what in range(6):
+            emit(out, w, 'failure', i, what)
+    for v in [v.num for v in w.voices if v.state < 4]:
+        for call in range(2):
+            emit(out, w, 'local', v, call, r.randint(0, 3))
+
+
+def meetings(first, behind):
+    for seed in range(first, behind):
+        for row in met(seed):
+            print(row)
+
+
 def main(runs, texts):
     seed = 0
     while runs > 0:
@@ -93,4 +137,7 @@ def main(runs, texts):
 
 
 if __name__ == '__main__':
-    main(int(sys.argv[1]), int(sys.argv[2]))
+    if sys.argv[1] == 'met':
+        meetings(int(sys.argv[2]), int(sys.argv[3]))
+    else:
+        main(int(sys.argv[1]), int(sys.argv[2]))

@@ -6,7 +6,12 @@ import java.util.List;
 /** Runs of calls whose answers a second model gave (tools/model.py), kept in src/test/data. */
 public final class ModelRuns {
     public static void main(String[] args) throws IOException {
-        List<String> rows = Files.readAllLines(Path.of("src/test/data/model-runs.txt"));
+        play(Files.readAllLines(Path.of("src/test/data/model-runs.txt")));
+        play(Files.readAllLines(Path.of("src/test/data/met-runs.txt")));
+        Due.end();
+    }
+
+    private static void play(List<String> rows) {
         StoryRound x = new StoryRound();
         String run = "";
         for (String row : rows) {
@@ -21,7 +26,6 @@ public final class ModelRuns {
             }
         }
         Due.is("whether there are runs", rows.isEmpty() ? 0 : 1, 1);
-        Due.end();
     }
 
     private static long call(StoryRound x, String[] words) {
